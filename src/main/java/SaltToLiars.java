@@ -245,7 +245,6 @@ public final class SaltToLiars {
         }
         keptNow--;
         evening.copy(kept[keptNow]);
-        evening.undoable = 0;
         return keptNow;
     }
 
@@ -456,11 +455,11 @@ public final class SaltToLiars {
             return (way >> t & 1) == 1;
         }
 
-        /** S may have bits of THINGS that there are not; these are nothing that anybody knows. */
         boolean knows(int i, int t) {
             return isSo(known[i], t);
         }
 
+        /** S may have bits of THINGS that there are not; these are nothing that anybody knows. */
         int knownBy(int set) {
             int all = 0;
             for (int i = 0; i < guests; i++) {
@@ -481,7 +480,7 @@ public final class SaltToLiars {
             }
         }
 
-        /** What number is by those that there are; a table without GUESTS or THINGS never divides. */
+        /** A table that is only being read may have nothing to divide by. */
         static int remainder(int number, int divisor) {
             return divisor > 0 ? Math.floorMod(number, divisor) : 0;
         }
@@ -667,12 +666,13 @@ public final class SaltToLiars {
             }
         }
 
+        /** Behind back() nothing can be UNDONE, so that no copy needs to know what could be. */
         void copy(Evening other) {
             salt = other.salt;
             rounds = other.rounds;
             untruths = other.untruths;
             trail = other.trail;
-            undoable = other.undoable;
+            undoable = 0;
             System.arraycopy(other.lied, 0, lied, 0, Table.GUESTS_MOST);
             for (int k = 0; k < HELD; k++) {
                 ring[k].copy(other.ring[k]);
@@ -907,7 +907,8 @@ public final class SaltToLiars {
             }
             long all = so + not;
             long shared = commonDivisor(all, so);
-            if (all == 0 || shared == 0) {
+            // Only of 0 and 0 it is 0: neither can be.
+            if (shared == 0) {
                 return NONE;
             }
             return above ? so / shared : all / shared;
