@@ -174,7 +174,11 @@ public final class SaltToLiars {
         if (!table.hasGuest(seat) || n < 0 || n > ROUNDS_AHEAD_MOST) {
             return BAD;
         }
-        return paths.cheapest(table, evening.salt, seat, n);
+        paths.begin(table, evening.salt);
+        for (int k = 0; k < n; k++) {
+            paths.goOneRound(table);
+        }
+        return paths.costOf(seat);
     }
 
     public int story(int set, int what) {
@@ -768,17 +772,17 @@ public final class SaltToLiars {
         private int[] next = new int[Table.GUESTS_MOST];
         private final Round probe = new Round();
 
-        int cheapest(Table table, int salt, int goal, int rounds) {
+        void begin(Table table, int salt) {
             for (int seat = 0; seat < table.guests; seat++) {
                 cost[seat] = seat == salt ? 0 : UNREACHED;
             }
-            for (int k = 0; k < rounds; k++) {
-                goOneRound(table);
-            }
-            return cost[goal] < UNREACHED ? cost[goal] : NONE;
         }
 
-        private void goOneRound(Table table) {
+        int costOf(int seat) {
+            return cost[seat] < UNREACHED ? cost[seat] : NONE;
+        }
+
+        void goOneRound(Table table) {
             for (int seat = 0; seat < table.guests; seat++) {
                 next[seat] = UNREACHED;
             }
