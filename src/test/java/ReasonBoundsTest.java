@@ -19,6 +19,9 @@ public final class ReasonBoundsTest {
         fewestInSix();
         fewestSum();
         fewestOfWhatHeKnows();
+        fewestByAnybody();
+        fewestByNobody();
+        fewestByEveryPath();
         fewestBad();
         storyOfNobodyAndAll();
         storyOfThingsThatThereAre();
@@ -280,6 +283,71 @@ public final class ReasonBoundsTest {
         Check.due("it stays, as he speaks what is so", away.fewest(0, 6), 0);
         SaltToLiars mute = Check.laid("g0,5,0;g1,5,2;g0,5,0;t1,4;a0;");
         Check.due("it does not, as he knows nothing that there is", mute.fewest(0, 6), Check.NONE);
+    }
+
+    private static void fewestByAnybody() {
+        Check.sentence("FEWEST: in each of which one says: the first GUEST and the last one, too");
+        for (int n = 3; n <= 8; n++) {
+            for (int liar = 0; liar < n; liar++) {
+                String text = "g0,5,0;".repeat(liar) + "g0,5,32;" + "g0,5,0;".repeat(n - liar - 1);
+                SaltToLiars x = Check.laid(text + "t1,1;".repeat(5) + "t0,4;a" + (liar + 1) % n + ";");
+                Check.due("to " + liar + " of " + n, x.fewest(liar, 1), 4);
+                Check.due("to another one", x.fewest((liar + 2) % n, 6), Check.NONE);
+            }
+        }
+    }
+
+    private static void fewestByNobody() {
+        Check.sentence("FEWEST: .. or nobody says anything");
+        // only the deaf one knows anything: if he speaks what is so, it stays, if he lies, it costs
+        SaltToLiars x = Check.laid("g1,5,1;" + "g0,5,0;".repeat(6) + "t1,1;a3;");
+        for (int n = 0; n <= 6; n++) {
+            for (int seat = 0; seat <= 3; seat++) {
+                Check.due("to " + seat + " in " + n, x.fewest(seat, n), seat >= 3 - n ? 0 : Check.NONE);
+            }
+        }
+    }
+
+    /** The least sum over all ways to spend n rounds, each of them played. */
+    private static int fewestPlayed(SaltToLiars x, int seat, int n) {
+        if (n == 0) {
+            return x.count(3) == seat ? 0 : Check.HIGH;
+        }
+        x.hush();
+        int least = fewestPlayed(x, seat, n - 1);
+        x.undo();
+        for (int i = 0; i < 3; i++) {
+            for (int t = 0; t < 2; t++) {
+                if ((x.guest(i, 2) >> t & 1) == 1) {
+                    boolean so = x.thing(t, 0) == 1;
+                    x.say(i, t, so);
+                    least = Math.min(least, fewestPlayed(x, seat, n - 1));
+                    x.undo();
+                    x.say(i, t, !so);
+                    int rest = fewestPlayed(x, seat, n - 1);
+                    least = Math.min(least, rest == Check.HIGH ? rest : rest + x.weight(i, t));
+                    x.undo();
+                }
+            }
+        }
+        return least;
+    }
+
+    private static void fewestByEveryPath() {
+        Check.sentence("FEWEST: the least sum .. by which the salt is there at their end: by every path that is played");
+        String[] texts = {"g0,5,3;g2,5,1;g3,5,2;t1,2;t0,1;", "g1,5,1;g0,5,2;g4,5,3;t1,1;t1,3;", "g1,5,0;g1,5,2;g3,5,1;t0,1;t0,2;"};
+        for (String text : texts) {
+            for (int k = 0; k < 12; k++) {
+                String whole = text + "l" + k % 4 + ";a" + k / 4 + ";";
+                for (int seat = 0; seat < 3; seat++) {
+                    for (int n = 0; n <= 2; n++) {
+                        int least = fewestPlayed(Check.laid(whole), seat, n);
+                        int want = least == Check.HIGH ? Check.NONE : least;
+                        Check.due("to " + seat + " in " + n + " of " + whole, Check.laid(whole).fewest(seat, n), want);
+                    }
+                }
+            }
+        }
     }
 
     private static void fewestBad() {

@@ -299,6 +299,15 @@ public final class TextBoundsTest {
                 Check.due("thing " + t + " of " + ways, x.thing(t, 0), ways >> t & 1);
             }
         }
+        SaltToLiars again = Check.laid(THREE + "t1,1;".repeat(6));
+        Check.due("laid again", again.lay(), 3);
+        Check.write(again, THREE + "t0,1;".repeat(6));
+        for (int k = 0; k < 2; k++) {
+            Check.due("laid otherwise", again.lay(), 3);
+            for (int t = 0; t < 6; t++) {
+                Check.due("thing " + t + " that was so ahead", again.thing(t, 0), 0);
+            }
+        }
     }
 
     private static void weights() {
@@ -333,6 +342,7 @@ public final class TextBoundsTest {
     private static void lawWithout() {
         Check.sentence("LAW .. (0 without ..)");
         SaltToLiars x = Check.laid(THREE_AND_THING + "l3;");
+        Check.due("laid again", x.lay(), 3);
         Check.due("law with", x.count(2), 3);
         Check.write(x, THREE_AND_THING);
         Check.due("lay without", x.lay(), 3);
@@ -363,6 +373,7 @@ public final class TextBoundsTest {
     private static void startWithout() {
         Check.sentence("the salt is at SEAT A .. (0 without ..)");
         SaltToLiars x = Check.laid(THREE_AND_THING + "a2;");
+        Check.due("laid again", x.lay(), 3);
         Check.due("salt with", x.count(3), 2);
         Check.write(x, THREE_AND_THING);
         Check.due("lay without", x.lay(), 3);
