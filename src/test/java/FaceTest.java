@@ -1,11 +1,18 @@
+import java.io.IOException;
 import java.lang.reflect.Constructor;
 import java.lang.reflect.Field;
 import java.lang.reflect.Method;
 import java.lang.reflect.Modifier;
+import java.nio.file.Files;
+import java.nio.file.Path;
+import java.util.ArrayList;
 import java.util.Arrays;
+import java.util.List;
 import java.util.Random;
 import java.util.Set;
 import java.util.TreeSet;
+import java.util.regex.MatchResult;
+import java.util.regex.Pattern;
 
 /** The face is the document's and no more, and no call throws, whatever it is given. */
 public final class FaceTest {
@@ -27,8 +34,9 @@ public final class FaceTest {
         }
     }
 
-    public static void main(String[] args) {
+    public static void main(String[] args) throws IOException {
         face();
+        sections(Files.readString(Path.of("../shared/DOC.md")), Files.readString(Path.of("src/main/java/SaltToLiars.java")));
         nothingThrown();
         System.out.println(wrong == 0 ? "the face is as told" : wrong + " wrong");
         if (wrong != 0) {
@@ -81,6 +89,25 @@ public final class FaceTest {
                 inside.getName() + " is static and not public");
         }
         must(SaltToLiars.class.getDeclaredClasses().length < 12, "twelve classes at most");
+    }
+
+    /** "Ahead of the calls .. the interface says: ---- .." */
+    private static void sections(String document, String source) {
+        List<String> told = new ArrayList<>();
+        for (MatchResult section : found(document, "(?m)^Ahead of the calls (.*) the interface says: (---- .*)\\.$")) {
+            told.add(section.group(2));
+            told.addAll(List.of(section.group(1).replace("`", "").split(", ")));
+        }
+        List<String> there = new ArrayList<>();
+        for (MatchResult row : found(source, "(?m)^    (?:// (----.*)|public (?:int|long) (\\w+)\\(.*)$")) {
+            there.add(row.group(1) != null ? row.group(1) : row.group(2));
+        }
+        must(told.size() == 5 + FACE.length, "five sections: " + told);
+        must(there.equals(told), "calls stand behind what the interface says ahead of them: " + there);
+    }
+
+    private static List<MatchResult> found(String text, String pattern) {
+        return Pattern.compile(pattern).matcher(text).results().toList();
     }
 
     private static void nothingThrown() {

@@ -26,6 +26,7 @@ public final class LanguageTest {
         fieldsOf(classes);
         methodsOf(classes);
         lengthsOf(code);
+        nothingMadeByCalls(code);
         Check.finish();
     }
 
@@ -92,9 +93,13 @@ public final class LanguageTest {
         }
     }
 
+    private static Matcher methodHeads(String code) {
+        return Pattern.compile("(?m)^( +)[\\w\\[\\] ]*\\b(\\w+)\\([^;{}]*\\) \\{$").matcher(code);
+    }
+
     private static void lengthsOf(String code) {
         Check.sentence("rule 11: methods stay short (some sixty lines)");
-        Matcher head = Pattern.compile("(?m)^( +)[\\w\\[\\] ]+\\([^;{}]*\\) \\{$").matcher(code);
+        Matcher head = methodHeads(code);
         int methods = 0;
         while (head.find()) {
             int end = code.indexOf("\n" + head.group(1) + "}", head.end());
@@ -103,5 +108,17 @@ public final class LanguageTest {
             methods++;
         }
         Check.due("methods were found", methods > 80 ? 1 : 0, 1);
+    }
+
+    /** What a run makes is counted, so that every row is made with the object, and no call makes one. */
+    private static void nothingMadeByCalls(String code) {
+        Check.sentence("rule 12: what a run makes is counted: keep it small");
+        Matcher head = methodHeads(code);
+        while (head.find()) {
+            boolean constructor = Character.isUpperCase(head.group(2).charAt(0));
+            int end = code.indexOf("\n" + head.group(1) + "}", head.end());
+            long made = found(code.substring(head.start(), end), "\\bnew\\b|\\.clone\\(|copyOf");
+            Check.due("made by " + head.group().trim(), constructor ? 0 : made, 0);
+        }
     }
 }
